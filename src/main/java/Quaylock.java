@@ -494,7 +494,7 @@ public final class Quaylock {
         }
 
         int heightOf(int stack) {
-            return hasStack(stack) ? heights[stack] : 0;
+            return stack >= 0 && stack < stackCount ? heights[stack] : 0;
         }
 
         boolean isFull(int stack) {
