@@ -27,39 +27,49 @@ final class Check {
      * gets the call, and then both must answer everything alike.
      */
     void refused(String what, Supplier<Quaylock> scene, Call call, Class<? extends RuntimeException> due) {
-        Quaylock asked = scene.get();
-        String outcome = "no exception";
-        try {
-            outcome = "the answer " + call.on(asked);
-        } catch (RuntimeException e) {
-            outcome = e.getClass().getName();
-        }
-        same(what, outcome, due.getName());
-        alike(what, asked, scene.get());
+        same(what, outcome(scene.get(), call), due.getName());
+        unchanged(what, scene, call);
     }
 
     /** The same for a call that answers, but must change nothing. */
     void onlyTells(String what, Supplier<Quaylock> scene, Call call, Object due) {
-        Quaylock asked = scene.get();
-        Object got;
-        try {
-            got = call.on(asked);
-        } catch (RuntimeException e) {
-            got = e.getClass().getName();
-        }
-        same(what, got, due);
-        alike(what, asked, scene.get());
+        same(what, outcome(scene.get(), call), due);
+        unchanged(what, scene, call);
     }
 
-    /** Prints no more than the first answer in which the two yards differ. */
-    void alike(String what, Quaylock asked, Quaylock untouched) {
-        String[] got = Snapshot.of(asked).split("\n");
-        String[] due = Snapshot.of(untouched).split("\n");
+    /** An exception counts with its exact class: one below it would be another answer. */
+    private static Object outcome(Quaylock yard, Call call) {
+        try {
+            return call.on(yard);
+        } catch (RuntimeException e) {
+            return e.getClass().getName();
+        }
+    }
+
+    private void unchanged(String what, Supplier<Quaylock> scene, Call call) {
+        alike(what, () -> {
+            Quaylock asked = scene.get();
+            outcome(asked, call);
+            return asked;
+        }, scene);
+    }
+
+    /** Both must answer alike now and in all hours that come. Each look uses a yard up, so it is made for each. */
+    void alike(String what, Supplier<Quaylock> asked, Supplier<Quaylock> due) {
+        sameLines(what + ", the yard after it", Snapshot.of(asked.get()), Snapshot.of(due.get()));
+        sameLines(what + ", the hours after it", Snapshot.ofHoursToCome(asked.get()),
+                Snapshot.ofHoursToCome(due.get()));
+    }
+
+    /** Prints no more than the first answer in which the two differ. */
+    private void sameLines(String what, String gotText, String dueText) {
+        String[] got = gotText.split("\n");
+        String[] due = dueText.split("\n");
         int differing = Arrays.mismatch(got, due);
         if (differing < 0) {
             looked++;
         } else {
-            same(what + ", the yard after it", line(got, differing), line(due, differing));
+            same(what, line(got, differing), line(due, differing));
         }
     }
 

@@ -142,13 +142,19 @@ public final class MovesTest {
                     NoSuchElementException.class);
         }
         Quaylock dug = scene.get();
-        Quaylock moved = scene.get();
         CHECK.same(what + ": dig", dug.dig(box), due.length);
         CHECK.same(what + ": above after dig", dug.above(box), 0);
-        for (int[] move : due) {
-            moved.move(move[0], move[1]);
-        }
-        CHECK.alike(what + ": dig", dug, moved);
+        CHECK.alike(what + ": dig", () -> {
+            Quaylock yard = scene.get();
+            yard.dig(box);
+            return yard;
+        }, () -> {
+            Quaylock yard = scene.get();
+            for (int[] move : due) {
+                yard.move(move[0], move[1]);
+            }
+            return yard;
+        });
     }
 
     /** Box 1 (5) over box 0 goes onto an empty stack alone; box 2 (3) has to make room by going onto box 3 (4). */

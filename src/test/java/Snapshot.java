@@ -1,6 +1,6 @@
 import java.util.function.Supplier;
 
-/** All that a yard tells of itself, in fewer calls than an object is used for. */
+/** All that a yard tells of itself, in fewer calls than an object is used for; a scene may have used some hundred. */
 final class Snapshot {
     private static final int STACKS = 4;
     private static final int LEVELS = 4;
@@ -28,11 +28,37 @@ final class Snapshot {
             int appointment = i;
             snapshot.tell("stateOf " + i, () -> yard.stateOf(appointment));
         }
-        for (int hour = yard.now(); hour < yard.now() + 8; hour++) {
+        int now = yard.now();
+        for (int hour = now; hour < now + 8; hour++) {
             snapshot.tellHour(yard, hour);
         }
         snapshot.tellNextNumbers(yard);
         return snapshot.text.toString();
+    }
+
+    /** What happens up to the last hour: so an appointment or a hold that is far away shows itself too. */
+    static String ofHoursToCome(Quaylock yard) {
+        Snapshot snapshot = new Snapshot();
+        for (int i = 0; i < 30; i++) {
+            snapshot.tellPass(yard, 1);
+        }
+        for (int i = 0; i < 41; i++) {
+            snapshot.tellPass(yard, 24);
+        }
+        for (int i = 0; i < 24; i++) {
+            snapshot.tellPass(yard, 1);
+        }
+        for (int i = 0; i < APPOINTMENTS; i++) {
+            int appointment = i;
+            snapshot.tell("stateOf " + i, () -> yard.stateOf(appointment));
+        }
+        snapshot.tellWhole(yard);
+        return snapshot.text.toString();
+    }
+
+    private void tellPass(Quaylock yard, int hours) {
+        tell("pass " + hours, () -> yard.pass(hours));
+        tell("moves then", yard::moves);
     }
 
     private void tellWhole(Quaylock yard) {
@@ -60,6 +86,8 @@ final class Snapshot {
         tell("appointmentOf " + box, () -> yard.appointmentOf(box));
         tell("firstHour " + box, () -> yard.firstHour(box));
         tell("planLength " + box, () -> yard.planLength(box));
+        tell("planBox " + box, () -> yard.planBox(box, 0));
+        tell("planStack " + box, () -> yard.planStack(box, 0));
         for (int i = 0; i < STACKS; i++) {
             int stack = i;
             tell("why " + box + " " + stack, () -> yard.why(box, stack));
@@ -82,11 +110,10 @@ final class Snapshot {
         int booked = box;
         tell("book", () -> yard.book(booked, 999, 0));
         tell("addStack", () -> yard.addStack(4));
-        for (int i = 0; i < STACKS; i++) {
-            int stack = i;
+        for (int i = 0; i < STACKS * LEVELS; i++) {
+            int stack = i / LEVELS;
             tell("addBox 1 " + stack, () -> yard.addBox(1, stack));
         }
-        tell("pass", () -> yard.pass(1));
     }
 
     private void tell(String what, Supplier<Object> answer) {
