@@ -416,7 +416,7 @@ public final class BoundaryGateTest {
         }
     }
 
-    /** Promise 31, "Throws IllegalArgumentException if [..] the hour would be greater than 999": 999 is still allowed. */
+    /** Promise 31, "Throws IllegalArgumentException if [..] the hour would be greater than 999": 999 is allowed. */
     private static void passUpTo999() {
         for (int hours : new int[] {1, 2, 23, 24}) {
             Quaylock yard = oneBox(999 - hours);

@@ -77,7 +77,7 @@ public final class BoundaryHoldsTest {
         }
     }
 
-    /** Promise 12, "Throws IllegalArgumentException if there is no such kind": of all signs, p and l alone are kinds. */
+    /** Promise 12, "Throws IllegalArgumentException if there is no such kind": of all signs, p and l alone are. */
     private static void holdNoSuchKind() {
         int refused = 0;
         Quaylock yard = Scenes.four();
@@ -318,7 +318,7 @@ public final class BoundaryHoldsTest {
         }
     }
 
-    /** Promise 16, "above a box", "pinned": not the box itself, none below it, no hold of another kind, no ended one. */
+    /** Promise 16, "above a box", "pinned": not the box itself, none below it, no hold of the kind l, no ended one. */
     private static void pinnedAboveOtherHolds() {
         CHECK.onlyTells("promise 16, the box itself", () -> Scenes.held(1, 'p', 1000, tower()), x -> x.pinnedAbove(1),
                 0);

@@ -20,6 +20,8 @@ public final class BoundaryMovesTest {
         planOfNoMove();
         planOfAsManyMovesAsBoxesAbove();
         planOfOneMoveMore();
+        planWithTheOnlyPlaceInAnyStack();
+        planWithTheHighestBoxNumbers();
         noPlanOfTwoMovesMore();
         noPlanWithoutPlace();
         noPlanWithAPin();
@@ -257,6 +259,43 @@ public final class BoundaryMovesTest {
         planned("three above, one of them twice", () -> Scenes.yard("4 2 2", "9@0 8@0 7@0 6@0"), 0,
                 "3>1 2>2 3>2 1>1");
         planned("fewer moves come before lower boxes", () -> Scenes.yard("4 4 4", "1@1 9@0 5@0"), 1, "2>2");
+        planned("fewer moves come before lower stacks", () -> Scenes.yard("4 4 4", "1@0 9@2 5@2"), 1, "2>1");
+    }
+
+    /** Promises 19 to 23: wherever the box stands, the one place that is left is found, in any other stack. */
+    private static void planWithTheOnlyPlaceInAnyStack() {
+        for (int from = 0; from < 4; from++) {
+            for (int to = 0; to < 4; to++) {
+                if (from == to) {
+                    continue;
+                }
+                StringBuilder boxes = new StringBuilder("9@" + from + " 9@" + from);
+                for (int full = 0; full < 4; full++) {
+                    boxes.append(full == from || full == to ? "" : " 9@" + full + " 1@" + full);
+                }
+                planned("from stack " + from + " to " + to, () -> Scenes.yard("2 2 2 2", boxes.toString()), 0,
+                        "1>" + to);
+            }
+        }
+    }
+
+    /** Promises 19 to 23: the boxes 16 to 19, the last that can come, and the most moves that a plan can have. */
+    private static void planWithTheHighestBoxNumbers() {
+        Supplier<Quaylock> lastFour = () -> {
+            Quaylock yard = Scenes.yard("4 2 2", "");
+            for (int box = 0; box < 16; box++) {
+                yard.addBox(1, 0);
+                Scenes.passed(1, Scenes.booked(box, box + 1, 0, yard));
+            }
+            for (int weight = 9; weight >= 6; weight--) {
+                yard.addBox(weight, 0);
+            }
+            return yard;
+        };
+        planned("three above, one of them twice", lastFour, 16, "19>1 18>2 19>2 17>1");
+        planned("two above", lastFour, 17, "19>1 18>2");
+        planned("one above", lastFour, 18, "19>1");
+        planned("none above", lastFour, 19, "");
     }
 
     /** Promises 19 to 23, "at most one move more than there are boxes above it": two more do not count. */

@@ -25,6 +25,7 @@ public final class BoundaryTermsTest {
         holdForGood();
         pinnedBoxStaysAndLockedBoxMoves();
         holdEndsByItsHourOrByACall();
+        holdsOfAllBoxesEnd();
         planStopsWhenTheBoxIsAtTheTop();
         planDoesNotMoveTheBoxItself();
         plansAreComparedMoveByMove();
@@ -43,7 +44,7 @@ public final class BoundaryTermsTest {
         CHECK.end();
     }
 
-    /** "An object is used for at most 512 calls": the last one still answers, after 508 moves. */
+    /** What it is, "An object is used for at most 512 calls": the last one still answers, after 508 moves. */
     private static void lastCallAfterMoves() {
         Quaylock yard = Scenes.yard("1 1", "30@0");
         for (int call = 4; call < CALLS; call++) {
@@ -57,7 +58,9 @@ public final class BoundaryTermsTest {
         CHECK.same("call 512, move", moving.move(0, 1), 509);
     }
 
-    /** "An object is used for at most 512 calls": refused calls count, and leave the last one its answer. */
+    /**
+     * What it is, "An object is used for at most 512 calls": refused calls count, and leave the last one its answer.
+     */
     private static void lastCallAfterRefusedCalls() {
         Quaylock yard = new Quaylock();
         int refused = 0;
@@ -72,7 +75,9 @@ public final class BoundaryTermsTest {
         CHECK.same("call 512, addStack", yard.addStack(4), 0);
     }
 
-    /** "An object is used for at most 512 calls": as many plans of a full yard, the last one as the first. */
+    /**
+     * What it is, "An object is used for at most 512 calls": as many plans of a full yard, the last one as the first.
+     */
     private static void lastCallAfterPlans() {
         Quaylock yard = Scenes.yard("4 4 4 4", "9@0 5@0 5@0 5@0 3@1 4@2 3@3 1@3");
         int due = yard.planLength(0);
@@ -85,7 +90,7 @@ public final class BoundaryTermsTest {
         CHECK.same("call 512, dig", yard.dig(0), due);
     }
 
-    /** "An object is used for at most 512 calls": hours one by one, and the last one lets a box leave. */
+    /** What it is, "An object is used for at most 512 calls": hours one by one, and the last one lets a box leave. */
     private static void lastCallAfterHours() {
         Quaylock yard = Scenes.yard("4 4", "30@0 30@0");
         yard.book(0, 507, 2);
@@ -95,7 +100,10 @@ public final class BoundaryTermsTest {
         CHECK.same("call 512, pass", yard.pass(1), 1);
     }
 
-    /** "An object is used for at most 512 calls": holds again and again, 30 appointments, and the last one is seen. */
+    /**
+     * What it is, "An object is used for at most 512 calls": holds again and again, 30 appointments, and the last one
+     * is seen.
+     */
     private static void lastCallAfterHoldsAndAppointments() {
         Quaylock yard = Scenes.yard("1", "30@0");
         int calls = 2;
@@ -112,7 +120,7 @@ public final class BoundaryTermsTest {
         CHECK.same("call 512, heldUntil", yard.heldUntil(0), CALLS - 1);
     }
 
-    /** "At most 4 stacks have the numbers 0 to n - 1 in the order in which they were added". */
+    /** Promise 2, "At most 4 stacks have the numbers 0 to n - 1 in the order in which they were added". */
     private static void stackNumbersInTheirOrder() {
         int[] reaches = {3, 1, 4, 2};
         Quaylock yard = new Quaylock();
@@ -130,7 +138,10 @@ public final class BoundaryTermsTest {
         CHECK.same("no more than 4, with boxes in them", later.height(3), 0);
     }
 
-    /** "A stack has a reach from 1 to 4, which is the greatest number of boxes in it": by coming, moving and digging. */
+    /**
+     * Promises 2, 3, 18 and 23, "A stack has a reach [..], which is the greatest number of boxes in it": by coming,
+     * moving and digging.
+     */
     private static void reachIsTheGreatestNumberOfBoxes() {
         for (int reach = 1; reach <= 4; reach++) {
             String reaches = reach + " 4";
@@ -150,7 +161,7 @@ public final class BoundaryTermsTest {
         }
     }
 
-    /** "At most 20 boxes come, numbered from 0". */
+    /** Promise 3, "At most 20 boxes come, numbered from 0". */
     private static void boxNumbersFrom0To19() {
         Quaylock yard = Scenes.fourStacks();
         for (int number = 0; number < 20; number++) {
@@ -162,7 +173,7 @@ public final class BoundaryTermsTest {
         CHECK.refused("a twenty-first", Scenes::twentyHaveLeft, x -> x.addBox(1, 0), Boundary.STATE);
     }
 
-    /** "Numbered from 0": a box that comes after one has left has a number of its own. */
+    /** Promise 3, "Numbered from 0": a box that comes after one has left has a number of its own. */
     private static void boxNumbersAreNotUsedAgain() {
         Quaylock yard = Scenes.oneHasLeft();
         CHECK.same("the next number", yard.addBox(8, 1), 4);
@@ -171,7 +182,7 @@ public final class BoundaryTermsTest {
         CHECK.same("at the place of the one that left", yard.boxAt(1, 0), 4);
     }
 
-    /** "At most 8 are in the yard at a time": one more when one has left, over and over. */
+    /** Promise 3, "At most 8 are in the yard at a time": one more when one has left, over and over. */
     private static void eightInTheYardAtATime() {
         Quaylock yard = Scenes.eightBoxes();
         for (int number = 8; number < 20; number++) {
@@ -185,7 +196,10 @@ public final class BoundaryTermsTest {
         CHECK.refused("a ninth", Scenes::eightBoxes, x -> x.addBox(7, 3), Boundary.STATE);
     }
 
-    /** "If this is empty or the box at its top is not lighter": the same weight is not lighter; boxes below don't count. */
+    /**
+     * Promises 3 and 18, "If this is empty or the box at its top is not lighter": the same weight is not; boxes below
+     * don't count.
+     */
     private static void weightDecidesAtTheTopAlone() {
         Supplier<Quaylock> scene = () -> Scenes.yard("4 4", "9@0 5@0");
         CHECK.same("the weight of the top", scene.get().addBox(5, 0), 2);
@@ -207,7 +221,7 @@ public final class BoundaryTermsTest {
         }
     }
 
-    /** "The level of a box is the number of boxes below it": 0 with none, 3 with as many as can be. */
+    /** Promise 8, "The level of a box is the number of boxes below it": 0 with none, 3 with as many as can be. */
     private static void levelCountsTheBoxesBelow() {
         Quaylock yard = Scenes.yard("4", "");
         for (int level = 0; level < 4; level++) {
@@ -217,7 +231,10 @@ public final class BoundaryTermsTest {
         }
     }
 
-    /** "A hold up to an hour, this one not included": the hour before is held, the hour itself is free. */
+    /**
+     * Promises 12, 25 and 30, "A hold up to an hour, this one not included": the hour before is held, the hour itself
+     * is free.
+     */
     private static void holdDoesNotLastInItsLastHour() {
         for (char kind : KINDS) {
             for (int hour : new int[] {12, 20, 999}) {
@@ -229,7 +246,7 @@ public final class BoundaryTermsTest {
         }
     }
 
-    /** "Or for good": it does not end with the last hour, but by a call. */
+    /** Promises 12 and 13, "Or for good": it does not end with the last hour, but by a call. */
     private static void holdForGood() {
         for (char kind : KINDS) {
             Quaylock yard = Scenes.at(999, Scenes.held(2, kind, 1000, Scenes.four()));
@@ -239,7 +256,10 @@ public final class BoundaryTermsTest {
         }
     }
 
-    /** "'p', by which the box is neither moved nor leaves, or 'l', by which it can be moved, but does not leave". */
+    /**
+     * Promises 12, 18, 23 and 31, "'p', by which the box is neither moved nor leaves, or 'l', by which it can be moved,
+     * but does not leave".
+     */
     private static void pinnedBoxStaysAndLockedBoxMoves() {
         CHECK.refused("a pinned box is not moved", () -> Scenes.held(2, 'p', 11, Scenes.four()), x -> x.move(2, 2),
                 Boundary.CANNOT);
@@ -252,7 +272,7 @@ public final class BoundaryTermsTest {
         }
     }
 
-    /** "A hold ends when its hour comes, or by a call". */
+    /** Promises 13 and 31, "A hold ends when its hour comes, or by a call". */
     private static void holdEndsByItsHourOrByACall() {
         for (char kind : KINDS) {
             for (int lasting : new int[] {1, 2, 24}) {
@@ -268,14 +288,46 @@ public final class BoundaryTermsTest {
         }
     }
 
-    /** "Until it is at the top of its stack": no move is made behind that. */
+    /**
+     * Promise 31, "A hold ends when its hour comes": those of all boxes whose hour it is, of the first and of the last
+     * too.
+     */
+    private static void holdsOfAllBoxesEnd() {
+        for (char kind : KINDS) {
+            Quaylock yard = Scenes.eightBoxes();
+            for (int box = 0; box < 8; box++) {
+                yard.hold(box, kind, box == 4 ? 6 : 5);
+            }
+            yard.pass(4);
+            CHECK.same("an hour before they end", holds(yard, 8), ("" + kind).repeat(8));
+            yard.pass(1);
+            CHECK.same("when their hour has come", holds(yard, 8), "----" + kind + "---");
+            yard.pass(1);
+            CHECK.same("when the last one's has come", holds(yard, 8), "--------");
+            Quaylock last = Scenes.held(19, kind, 20, Scenes.twentyHaveCome());
+            CHECK.same("box 19, an hour before", last.holdOf(19), kind);
+            CHECK.same("box 19, its hour", Scenes.passed(1, last).holdOf(19), '-');
+        }
+    }
+
+    private static String holds(Quaylock yard, int boxes) {
+        StringBuilder kinds = new StringBuilder();
+        for (int box = 0; box < boxes; box++) {
+            kinds.append(yard.holdOf(box));
+        }
+        return kinds.toString();
+    }
+
+    /** Promises 19 and 21, "Until it is at the top of its stack": no move is made behind that. */
     private static void planStopsWhenTheBoxIsAtTheTop() {
         CHECK.onlyTells("at the top already", Scenes::four, x -> x.planLength(2), 0);
         CHECK.onlyTells("at the top after one move", Scenes::four, x -> x.planLength(1), 1);
         CHECK.refused("the plan has no second move", Scenes::four, x -> x.planBox(1, 1), Boundary.NONE);
     }
 
-    /** "The box itself is not moved": it stays where it is, and can be dug out though it is pinned. */
+    /**
+     * Promises 19 and 23, "The box itself is not moved": it stays where it is, and can be dug out though it is pinned.
+     */
     private static void planDoesNotMoveTheBoxItself() {
         Quaylock yard = Scenes.four();
         yard.dig(0);
@@ -285,7 +337,10 @@ public final class BoundaryTermsTest {
                 x -> x.planLength(0), 2);
     }
 
-    /** "The plan comes first in which the box that is moved has the lower number, and for the same box [..] the stack". */
+    /**
+     * Promises 21 and 22, "The plan comes first in which the box that is moved has the lower number, and for the same
+     * box [..]".
+     */
     private static void plansAreComparedMoveByMove() {
         Supplier<Quaylock> threeStacks = () -> Scenes.yard("1 4 1 1", "9@1 8@1");
         CHECK.onlyTells("the same box, the lower stack", threeStacks, x -> x.planStack(0, 0), 0);
@@ -299,7 +354,7 @@ public final class BoundaryTermsTest {
         CHECK.onlyTells("the second move is compared too", laterMoves, x -> x.planStack(0, 1), 2);
     }
 
-    /** "The gate has the lanes 0, 1 and 2". */
+    /** Promises 25 and 29, "The gate has the lanes 0, 1 and 2". */
     private static void lanes0To2() {
         for (int lane = 0; lane < 3; lane++) {
             CHECK.same("lane " + lane, Scenes.four().book(0, 20, lane), 0);
@@ -310,7 +365,9 @@ public final class BoundaryTermsTest {
         }
     }
 
-    /** "At most 30 appointments have the numbers 0 to n - 1 in the order in which they were booked". */
+    /**
+     * Promises 25 and 27, "At most 30 appointments have the numbers 0 to n - 1 in the order in which they were booked".
+     */
     private static void appointmentNumbersFrom0To29() {
         Quaylock yard = Scenes.four();
         for (int number = 0; number < 30; number++) {
@@ -322,14 +379,16 @@ public final class BoundaryTermsTest {
         CHECK.refused("a thirty-first number", Scenes::thirtyBooked, x -> x.stateOf(30), Boundary.NO_SUCH);
     }
 
-    /** "A lane has at most one booked appointment for an hour": those that are booked no more do not count. */
+    /**
+     * Promise 25, "A lane has at most one booked appointment for an hour": those that are booked no more do not count.
+     */
     private static void laneHasOneForAnHour() {
         CHECK.refused("a second one", Scenes::oneBooked, x -> x.book(1, 20, 2), Boundary.STATE);
         CHECK.same("after a cancelled one", Scenes.cancelled(0, Scenes.oneBooked()).book(1, 20, 2), 1);
         CHECK.same("after one that was given back", Scenes.givenBack().book(1, 20, 2), 1);
     }
 
-    /** "A box has at most one booked appointment": those that are booked no more do not count. */
+    /** Promise 25, "A box has at most one booked appointment": those that are booked no more do not count. */
     private static void boxHasOneBooked() {
         CHECK.refused("a second one", Scenes::oneBooked, x -> x.book(2, 999, 0), Boundary.STATE);
         CHECK.same("after a cancelled one", Scenes.cancelled(0, Scenes.oneBooked()).book(2, 999, 0), 1);
@@ -337,7 +396,10 @@ public final class BoundaryTermsTest {
         CHECK.same("after a missed one", Scenes.missed().book(0, 999, 0), 1);
     }
 
-    /** "When a hold is put on a box [..], and its booked appointment is for an hour in which the hold lasts". */
+    /**
+     * Promise 12, "When a hold is put on a box [..], and its booked appointment is for an hour in which the hold
+     * lasts".
+     */
     private static void holdPutOnAfterTheBooking() {
         for (char kind : KINDS) {
             CHECK.same("the hold ends with the hour before", Scenes.oneBooked().hold(2, kind, 20), 0);
@@ -347,7 +409,7 @@ public final class BoundaryTermsTest {
         }
     }
 
-    /** "Or made longer": up to the hour of the appointment it stays, one hour more and it is given back. */
+    /** Promise 12, "Or made longer": up to the hour of the appointment it stays, one hour more and it is given back. */
     private static void holdMadeLongerOrShorter() {
         for (char kind : KINDS) {
             Quaylock yard = Scenes.held(2, kind, 15, Scenes.oneBooked());
@@ -361,7 +423,7 @@ public final class BoundaryTermsTest {
         }
     }
 
-    /** "The hour is 0 at first, and 999 is the last one". */
+    /** Promises 31 and 32, "The hour is 0 at first, and 999 is the last one". */
     private static void hoursFrom0To999() {
         Quaylock yard = new Quaylock();
         CHECK.same("at first", yard.now(), 0);
@@ -374,7 +436,7 @@ public final class BoundaryTermsTest {
         CHECK.refused("none behind it", () -> Scenes.at(999, new Quaylock()), x -> x.pass(1), Boundary.WRONG);
     }
 
-    /** "When an hour comes, first the holds end whose hour it is": before the first lane is looked at. */
+    /** Promise 31, "When an hour comes, first the holds end whose hour it is": before the first lane is looked at. */
     private static void holdsEndBeforeTheLanes() {
         for (char kind : KINDS) {
             Quaylock own = Scenes.booked(2, 11, 0, Scenes.held(2, kind, 11, Scenes.four()));
@@ -388,7 +450,10 @@ public final class BoundaryTermsTest {
                 Scenes.booked(1, 11, 0, Scenes.held(2, 'p', 12, Scenes.four())).pass(1), 0);
     }
 
-    /** "Then, lane after lane": what lane 0 does, lane 1 finds, and so on; the order of booking does not matter. */
+    /**
+     * Promise 31, "Then, lane after lane": what lane 0 does, lane 1 finds, and so on; the order of booking does not
+     * matter.
+     */
     private static void laneAfterLane() {
         // Box 1 can leave only when box 2 above it has left, and so on.
         Supplier<Quaylock> tower = () -> Scenes.yard("3", "5@0 5@0 5@0");
@@ -405,7 +470,7 @@ public final class BoundaryTermsTest {
         }
     }
 
-    /** "Otherwise it is missed": no move is made, and the box stays. */
+    /** Promise 31, "Otherwise it is missed": no move is made, and the box stays. */
     private static void missedAppointmentChangesNothingElse() {
         Quaylock yard = Scenes.missed();
         CHECK.same("state", yard.stateOf(0), 'm');
@@ -415,7 +480,7 @@ public final class BoundaryTermsTest {
         CHECK.same("the lane is free", yard.inLane(0, 11), -1);
     }
 
-    /** "The moves of the plan are made, the box leaves the yard, and it is done". */
+    /** Promise 31, "The moves of the plan are made, the box leaves the yard, and it is done". */
     private static void boxThatLeavesMakesItsMoves() {
         Quaylock yard = Scenes.booked(0, 11, 2, Scenes.four());
         CHECK.same("boxes that leave", yard.pass(1), 1);
@@ -426,7 +491,9 @@ public final class BoundaryTermsTest {
         CHECK.same("weightLeft", yard.weightLeft(), 9L);
     }
 
-    /** "A method that throws an exception changes nothing": many refused calls, one after the other. */
+    /**
+     * Promises 2 to 34, "A method that throws an exception changes nothing": many refused calls, one after the other.
+     */
     private static void refusedCallsChangeNothing() {
         Supplier<Quaylock> scene = () -> Scenes.held(1, 'p', 30, Scenes.booked(0, 40, 1, Scenes.oneBooked()));
         Check.Call[] refused = {

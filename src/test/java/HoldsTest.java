@@ -169,7 +169,8 @@ public final class HoldsTest {
             yard.hold(2, kind, 14);
             yard.hold(3, kind, 13);
             yard.pass(2);
-            CHECK.same("an hour before", "" + yard.holdOf(1) + yard.holdOf(2) + yard.holdOf(3), "" + kind + kind + kind);
+            CHECK.same("an hour before", "" + yard.holdOf(1) + yard.holdOf(2) + yard.holdOf(3),
+                    "" + kind + kind + kind);
             yard.pass(1);
             CHECK.same("at the hour", "" + yard.holdOf(1) + yard.holdOf(2) + yard.holdOf(3), "-" + kind + "-");
             yard.pass(1);

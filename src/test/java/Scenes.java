@@ -3,7 +3,7 @@ final class Scenes {
     private Scenes() {
     }
 
-    /** "4 1" and "9@0 5@0 3@1": the reaches of the stacks, and the boxes as weight@stack in the order of their coming. */
+    /** "4 1" and "9@0 5@0 3@1": the reaches of the stacks, and the boxes as weight@stack, the first to come first. */
     static Quaylock yard(String reaches, String boxes) {
         Quaylock yard = new Quaylock();
         for (String reach : words(reaches)) {

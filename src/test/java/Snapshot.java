@@ -1,6 +1,6 @@
 import java.util.function.Supplier;
 
-/** All that a yard tells of itself, in fewer calls than an object is used for; a scene may have used some hundred. */
+/** All that a yard tells of itself, in some 250 calls at most: a scene may have used as many of the 512 before. */
 final class Snapshot {
     private static final int STACKS = 4;
     private static final int LEVELS = 4;
