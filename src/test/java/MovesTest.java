@@ -14,6 +14,7 @@ public final class MovesTest {
         move();
         moveRefuses();
         plans();
+        plansInAFullYard();
         plansThatPinsForbid();
         plansThatWeightsForbid();
         planRefuses();
@@ -189,6 +190,16 @@ public final class MovesTest {
                 new int[][] {{5, 0}, {5, 0}, {5, 0}, {5, 0}, {5, 1}, {5, 2}, {5, 3}}), 0,
                 new int[][] {{3, 1}, {2, 2}, {1, 3}});
         planned("the last numbers", () -> highNumbers(), 18, new int[][] {{19, 0}});
+    }
+
+    /** Here so many plans are begun that the order in which they are looked at decides. */
+    private static void plansInAFullYard() {
+        planned("as many moves as boxes above", () -> Scenes.yard("4 4 4 4", "3@3 1@2 3@3 1@1 1@2 1@3 1@3 1@1"), 0,
+                new int[][] {{6, 1}, {5, 1}, {2, 0}});
+        planned("one move more", () -> Scenes.yard("2 4 4 4", "7@2 5@0 3@2 6@1 8@3 6@1 5@3 3@1"), 3,
+                new int[][] {{1, 3}, {7, 2}, {5, 0}});
+        planned("the first move not to the first stack",
+                () -> Scenes.yard("4 4 4 2", "2@1 3@2 3@3 3@2 3@2 1@2 3@3 2@1"), 3, new int[][] {{5, 1}, {4, 0}});
     }
 
     /** The boxes 18 and 19 stand in stack 3; all others have left. */
